@@ -296,10 +296,13 @@ public final class SheetMarks {
         }
         history.record(facts);
         int done = 0;
-        int at = 0;
-        while (at < pad.length && obey(at) == OK) {
-            done++;
-            at = pad.endOfOrder(at) + 1;
+        for (int at = 0; at < pad.length; at++) {
+            if (pad.beginsOrder(at)) {
+                if (obey(at) != OK) {
+                    break;
+                }
+                done++;
+            }
         }
         pad.length = 0;
         marks.makeFrom(facts);
@@ -848,17 +851,13 @@ public final class SheetMarks {
             return character >= low && character <= high;
         }
 
-        // Behind the text it is a ";", at which the last order ends as the others do.
+        // On both sides of the text it is a ";", as if the first and the last order had others beside them.
         int at(int index) {
             return index >= 0 && index < length && index < text.length ? text[index] : ';';
         }
 
-        int endOfOrder(int start) {
-            int end = start;
-            while (end < length && at(end) != ';') {
-                end++;
-            }
-            return end;
+        boolean beginsOrder(int index) {
+            return at(index - 1) == ';';
         }
 
         int digit(int index) {

@@ -12,6 +12,7 @@ public final class MarksTest {
         lowestRule();
         broken();
         brokenByNobody();
+        firstFactBreaks();
         markErrors();
         ofOwner();
         ofFact();
@@ -56,7 +57,13 @@ public final class MarksTest {
         DUE.is("rule 3: not with two left", x.mark(5, 6, 0), 0);
         due("rule 4 of the envelope", x, 5, 4, 2, 3, 4);
         DUE.is("rule 4: not of another kind", x.mark(5, 8, 0), 0);
-        due("rule 2 behind it", x, 0, 3, 2, 1, 1);
+        due("rule 1 stays behind it", x, 0, 3, 2, 1, 1);
+        SheetMarks y = new SheetMarks();
+        y.begin(2);
+        y.answers(0, 0, 0, 0, 0);
+        y.answers(1, 0, 0, 5, 5);
+        y.answers(1, 0, 1, 5, 5);
+        due("rule 3 for a player", y, 0, 1, 1, 4, 3);
     }
 
     private static void ruleFour() {
@@ -95,6 +102,13 @@ public final class MarksTest {
         y.holds(0, 10);
         due("rule 5 of the envelope", y, 5, 11, 1, 3, 5);
         due("rule 2 behind it", y, 1, 11, 2, 4, 2);
+    }
+
+    private static void firstFactBreaks() {
+        SheetMarks x = new SheetMarks();
+        x.answers(0, 1, 1, 2, 3);
+        x.answers(0, 0, 1, 2, 3);
+        DUE.is("broken by the first fact", x.count(6), 1);
     }
 
     private static void ruleSix() {
@@ -207,7 +221,13 @@ public final class MarksTest {
         DUE.is("not broken by another guess", wrong.count(6), 0);
         wrong.wrong(1, 2, 3);
         DUE.is("broken by a wrong guess", wrong.count(6), 1);
-        wrong.takeBack(3);
+        wrong.takeBack(0);
+        wrong.takeBack(0);
+        DUE.is("whole with the guesses alone", wrong.count(6), 0);
+        wrong.answers(0, 0, 1, 2, 3);
+        wrong.answers(1, 0, 1, 2, 3);
+        DUE.is("broken by a guess before the answers", wrong.count(6), 1);
+        wrong.takeBack(1);
         DUE.is("whole again", wrong.count(6), 0);
     }
 

@@ -202,6 +202,11 @@ public final class TextsTest {
         DUE.is("last fact", x.ofFact(39, 2), 1);
         Due.put(x, "h3a0");
         DUE.is("carryOut of none", x.carryOut(), 0);
+        Due.put(x, "-38;-37");
+        DUE.is("carryOut of numbers of two digits", x.carryOut(), 2);
+        DUE.is("facts then", x.count(1), 38);
+        DUE.is("last fact then", x.ofFact(37, 2), 1);
+        DUE.is("the one before", x.ofFact(36, 0), SheetMarks.WRONG);
     }
 
     private static void carryOutIsOneChange() {

@@ -64,6 +64,15 @@ public final class UndoTest {
         DUE.is("restore without a difference", x.count(9), 2);
         DUE.is("undo of restore", x.undo() * 100 + x.count(1), 101);
         DUE.is("the slot stays after undo", x.restore(0), 1);
+        x.begin(4);
+        x.answers(3, 1, 1, 2, 3);
+        x.takeBack(0);
+        x.wrong(0, 0, 0);
+        x.undo();
+        x.undo();
+        DUE.is("kind after undo", x.ofFact(0, 0), SheetMarks.SHOWS);
+        DUE.is("player after undo", x.ofFact(0, 1), 3);
+        DUE.is("card after undo", x.ofFact(0, 4), 15);
     }
 
     private static void whatIsNoChange() {

@@ -1,6 +1,8 @@
 /** Promises 12 to 15: what if; nothing changes. */
 public final class WhatIfTest {
     private static final Due DUE = new Due("WhatIfTest");
+    // Of player 0 the cards without a mark: card 0, and all but 0, 5, 6, 8, 9, 13, 17; of five others card 0.
+    private static final int DEEPER_OF_LAST_CARD = 12 + 5;
 
     public static void main(String[] args) {
         gain();
@@ -102,6 +104,16 @@ public final class WhatIfTest {
         DUE.is("deeper of nothing", x.deeper(), 0);
         x.holds(0, 0);
         DUE.is("deeper without what has marks", x.deeper(), 0);
+        SheetMarks z = new SheetMarks();
+        z.begin(5);
+        z.holds(0, 6);
+        z.holds(0, 13);
+        z.answers(0, 1, 0, 2, 2);
+        z.answers(0, 1, 0, 3, 3);
+        z.answers(0, 0, 5, 2, 5);
+        z.answers(0, 0, 5, 3, 5);
+        // Player 0 has card 0 and so nothing else; then nobody else has it.
+        DUE.is("deeper of one whose last card must be card 0", z.deeper(), DEEPER_OF_LAST_CARD);
         SheetMarks y = new SheetMarks();
         y.begin(5);
         y.holds(0, 6);
