@@ -298,7 +298,7 @@ public final class SheetMarks {
         int done = 0;
         for (int at = 0; at < pad.length; at++) {
             if (pad.beginsOrder(at)) {
-                if (obey(at) != OK) {
+                if (!obey(at)) {
                     break;
                 }
                 done++;
@@ -324,8 +324,8 @@ public final class SheetMarks {
         return many;
     }
 
-    // The pad has no fault when this is called.
-    private int obey(int at) {
+    // The pad has no fault when this is called. False is an error: the order changes nothing then.
+    private boolean obey(int at) {
         switch (pad.at(at)) {
             case 'h': return noteIfPossible(HOLDS, pad.digit(at + 1), pad.card(at + 2));
             case 'r': return noteIfPossible(REFUSES, pad.digit(at + 1), pad.threeCards(at + 2));
@@ -335,23 +335,20 @@ public final class SheetMarks {
         }
     }
 
-    private int noteIfPossible(int kind, int owner, int cards) {
-        if (!facts.hasOwner(owner)) {
-            return NO_SUCH;
-        }
-        if (facts.told >= MOST_FACTS) {
-            return TOO_MANY;
+    private boolean noteIfPossible(int kind, int owner, int cards) {
+        if (!facts.hasOwner(owner) || facts.told >= MOST_FACTS) {
+            return false;
         }
         facts.add(kind, owner, cards);
-        return OK;
+        return true;
     }
 
-    private int removeIfPossible(int fact) {
+    private boolean removeIfPossible(int fact) {
         if (!facts.has(fact)) {
-            return NO_SUCH;
+            return false;
         }
         facts.remove(fact);
-        return OK;
+        return true;
     }
 
     // ---- undo, saving
