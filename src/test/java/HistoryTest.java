@@ -292,13 +292,17 @@ public final class HistoryTest {
         for (int i = 0; i < 40; i++) {
             x.wrong(i % 6, i / 6 % 6, i / 36);
         }
-        long all = state(x);
         DUE.is("save of 40", x.save(0), 40);
         DUE.is("save is no change", x.count(9), 6);
         x.begin(2);
         DUE.is("save of none", x.save(1), 0);
         DUE.is("restore of 40", x.restore(0), 40);
-        DUE.is("state of 40", state(x), all);
+        DUE.is("players of 40", x.count(0), 5);
+        for (int i = 0; i < 40; i++) {
+            DUE.is("a of " + i, x.ofFact(i, 2), i % 6);
+            DUE.is("b of " + i, x.ofFact(i, 3), 6 + i / 6 % 6);
+            DUE.is("c of " + i, x.ofFact(i, 4), 12 + i / 36);
+        }
         DUE.is("restore of none", x.restore(1), 0);
         DUE.is("players then", x.count(0), 2);
         DUE.is("fact 0", x.ofFact(0, 0), SheetMarks.NO_SUCH);
